@@ -20,6 +20,7 @@ public final class Promise4Test {
         runResultsAreCleared();
         largeTypes();
         manyVariables();
+        manyPrograms();
         Due.finish();
     }
 
@@ -299,5 +300,25 @@ public final class Promise4Test {
         GradedUsage x = Due.accepted(chain + "VAR:26");
         Due.is("usage of the outermost variable", x.binderUsage(0, 0), GradedUsage.MANY);
         Due.is("usage of an inner variable", x.binderUsage(4, 0), GradedUsage.ZERO);
+    }
+
+    private static void manyPrograms() {
+        // Nothing of an earlier program's types may be left: each of these has others.
+        GradedUsage x = new GradedUsage(64, 32, 64);
+        for (int round = 0; round < 243; round++) {
+            x.reset();
+            int digits = round;
+            for (int k = 0; k < 5; k++) {
+                x.addNode(GradedUsage.BOX, digits % 3);
+                digits /= 3;
+            }
+            x.addNode(GradedUsage.LIT, 0);
+            Due.is("check of program " + round, x.check(), OK);
+            digits = round;
+            for (int k = 0; k < 5; k++) {
+                Due.is("typeAt(" + k + ", 0) of program " + round, x.typeAt(k, 0), GradedUsage.T_BOX * 4 + digits % 3);
+                digits /= 3;
+            }
+        }
     }
 }

@@ -103,8 +103,8 @@ public final class Promise6Test {
 
     private static void nodesBeyondTheProgram() {
         // A longer program stood here before: its binders must not show.
-        GradedUsage x = Due.accepted("ADD LETBOX BOX:2 LIT:1 VAR:0 LETBOX BOX:2 LIT:1 VAR:0");
-        Due.is("binderGrade(5) of the longer program", x.binderGrade(5), GradedUsage.MANY);
+        GradedUsage x = Due.accepted("ADD ADD LIT:1 LIT:2 LETBOX BOX:2 LIT:1 VAR:0");
+        Due.is("binderGrade(4) of the longer program", x.binderGrade(4), GradedUsage.MANY);
         x.reset();
         Due.add(x, "LETBOX BOX:2 LIT:1 VAR:0");
         x.check();

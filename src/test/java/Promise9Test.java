@@ -8,6 +8,7 @@ public final class Promise9Test {
         clearedResults();
         sumsOfCounts();
         gradesBoundCounts();
+        whereTheBoundCannotHold();
         Due.finish();
     }
 
@@ -110,6 +111,21 @@ public final class Promise9Test {
                     Due.is("the bound of record " + k + " of " + program, bounded ? 1 : 0, 1);
                 }
             }
+        }
+    }
+
+    // The document contradicts itself here (README.md): promises 4 and 8 settle every answer below, and
+    // the bound that promise 9 puts on records of grade ONE does not come out of them. These rows hold
+    // the program to promises 4 and 8; they change when the document does.
+    private static void whereTheBoundCannotHold() {
+        String[] programs = {"LETPAIR:3 LETBOX BOX:1 LIT:5 PAIR VAR:0 LIT:1 ADD VAR:1 VAR:1",
+            "CASE:3 LETBOX BOX:1 LIT:5 INL T_INT VAR:0 ADD VAR:0 VAR:0 LIT:0"};
+        for (String program : programs) {
+            GradedUsage x = Due.accepted(program);
+            Due.is("run of " + program, x.run(), GradedUsage.OUT_INT);
+            Due.is("value of " + program, x.valueInt(), 10);
+            Due.record(program, x, 0, 1, GradedUsage.ONE, 2);
+            Due.record(program, x, 1, 0, GradedUsage.MANY, 2);
         }
     }
 }
