@@ -74,7 +74,7 @@ public final class Promise1Test {
             ends(what, Due.load(64, 32, limit, Samples.leftSum(2)), GradedUsage.OUT_FRAME_LIMIT, 0, 0);
         }
         for (int limit : HIGH_64) {
-            ends("frameLimit " + limit, Due.load(64, 32, limit, Samples.leftSum(15)), GradedUsage.OUT_INT, 0, 0);
+            ends("frameLimit " + limit, Due.load(64, 32, limit, Samples.FRAMES_42), GradedUsage.OUT_INT, 8, 14);
         }
     }
 

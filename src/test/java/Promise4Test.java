@@ -21,6 +21,7 @@ public final class Promise4Test {
         largeTypes();
         manyVariables();
         manyPrograms();
+        listsAreMadeAnew();
         Due.finish();
     }
 
@@ -176,7 +177,9 @@ public final class Promise4Test {
         uses("T_INT", "ADD ADD VAR:0 VAR:0 VAR:0", 2);
         uses("T_INT", "PAIR VAR:0 VAR:0", 2);
         uses("T_INT", "PAIR VAR:0 LIT:1", 1);
+        uses("T_INT", "PAIR LIT:1 VAR:0", 1);
         uses("T_INT", "INL T_INT VAR:0", 1);
+        uses("T_INT", "INR T_INT VAR:0", 1);
         uses("T_INT", "INR T_INT ADD VAR:0 VAR:0", 2);
         for (int grade = 0; grade <= 2; grade++) {
             uses("T_INT", "BOX:" + grade + " VAR:0", grade);
@@ -216,6 +219,11 @@ public final class Promise4Test {
         uses("T_INT", "CASE:3 INL T_INT VAR:0 VAR:1 VAR:0", 2);
         uses("T_INT", "CASE:3 INL T_INT VAR:0 VAR:0 LIT:1", 1);
         uses("T_INT", "CASE:3 INL T_INT VAR:0 ADD VAR:0 VAR:0 LIT:1", 2);
+        // Each variable has a grade of its own: here the outer is used once, the middle many times.
+        GradedUsage x = Due.accepted("LAM:3 T_INT LAM:3 T_INT LAM:3 T_INT " + s + "ADD VAR:2 VAR:2 VAR:3");
+        Due.is("usage of the outer variable", x.binderUsage(0, 0), GradedUsage.ONE);
+        Due.is("usage of the middle variable", x.binderUsage(2, 0), GradedUsage.MANY);
+        Due.is("usage of the inner variable", x.binderUsage(4, 0), GradedUsage.ZERO);
     }
 
     private static void orderOfTests() {
@@ -319,6 +327,21 @@ public final class Promise4Test {
                 Due.is("typeAt(" + k + ", 0) of program " + round, x.typeAt(k, 0), GradedUsage.T_BOX * 4 + digits % 3);
                 digits /= 3;
             }
+        }
+    }
+
+    private static void listsAreMadeAnew() {
+        // The same nodes hold other lists in the next program.
+        GradedUsage x = Due.accepted("LAM:3 T_INT LAM:3 T_INT PAIR VAR:0 VAR:1");
+        String[] next = {"PAIR LIT:1 LIT:1", "PAIR VAR:0 VAR:0", "PAIR VAR:1 LIT:1", "PAIR LIT:1 VAR:0"};
+        int[] outer = {0, 0, 1, 0};
+        int[] inner = {0, 2, 0, 1};
+        for (int k = 0; k < next.length; k++) {
+            x.reset();
+            Due.add(x, "LAM:3 T_INT LAM:3 T_INT " + next[k]);
+            Due.is("check of " + next[k], x.check(), OK);
+            Due.is("outer usage in " + next[k], x.binderUsage(0, 0), outer[k]);
+            Due.is("inner usage in " + next[k], x.binderUsage(2, 0), inner[k]);
         }
     }
 }

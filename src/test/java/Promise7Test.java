@@ -49,6 +49,11 @@ public final class Promise7Test {
         at("INR T_BOX:0 T_INT LIT:1", 1, 1, INT);
         at("LAM:3 T_BOX:1 T_INT LIT:1", 1, 0, 21);
         at("LAM:3 T_BOX:1 T_INT LIT:1", 1, 1, INT);
+        at("LAM:3 T_BOX:1 T_PAIR T_INT T_INT LIT:1", 2, 0, 8);
+        at("LAM:3 T_BOX:1 T_PAIR T_INT T_INT LIT:1", 2, 2, -1);
+        at("LAM:3 T_FUN:0 T_SUM T_INT T_INT T_BOX:2 T_INT LIT:1", 1, 0, 16);
+        at("LAM:3 T_FUN:0 T_SUM T_INT T_INT T_BOX:2 T_INT LIT:1", 2, 0, 12);
+        at("LAM:3 T_FUN:0 T_SUM T_INT T_INT T_BOX:2 T_INT LIT:1", 2, 2, 22);
         at("BOX:1 BOX:2 LIT:1", 1, 0, 22);
         at("BOX:1 BOX:2 LIT:1", 1, 1, -1);
         at("BOX:1 BOX:2 LIT:1", 2, 0, INT);

@@ -166,6 +166,8 @@ public final class Promise8Test {
             ranWithin(64, 32, frames, Samples.leftSum(frames), GradedUsage.OUT_INT, sum, 0, 0);
             ranWithin(64, 32, frames, Samples.leftSum(frames + 1), GradedUsage.OUT_FRAME_LIMIT, 0, 0, 0);
         }
+        ranWithin(64, 32, 42, Samples.FRAMES_42, GradedUsage.OUT_INT, 42, 8, 14);
+        ranWithin(64, 32, 41, Samples.FRAMES_42, GradedUsage.OUT_FRAME_LIMIT, 0, 8, 13);
         // Right operands wait behind a number, which takes the place of the left frame.
         ranWithin(64, 32, 1, "ADD LIT:1 LIT:2", GradedUsage.OUT_INT, 3, 0, 0);
         ranWithin(64, 32, 1, "ADD LIT:1 ADD LIT:2 LIT:3", GradedUsage.OUT_FRAME_LIMIT, 0, 0, 0);

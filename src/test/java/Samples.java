@@ -24,6 +24,11 @@ final class Samples {
     /** Would make 34 records. */
     static final String RECORDS_34 = RECORD_MAKERS + "ADD VAR:0 ADD VAR:1 ADD VAR:2 VAR:3";
 
+    /** Seven calls, each inside the argument of the last and behind six more sums: 42 frames, value 42. */
+    static final String FRAMES_42 = "LETBOX BOX:2 LAM:1 T_INT ADD ADD ADD ADD ADD ADD VAR:0"
+        + " LIT:1 LIT:1 LIT:1 LIT:1 LIT:1 LIT:1"
+        + " APP VAR:0 APP VAR:0 APP VAR:0 APP VAR:0 APP VAR:0 APP VAR:0 APP VAR:0 LIT:0";
+
     private Samples() {
     }
 
