@@ -91,6 +91,40 @@ final class Due {
         is(when + ": recordCount(0)", x.recordCount(0), -1);
     }
 
+    /** All that can be read of the object, as text; the indexes go one beyond what can be there. */
+    static String allAnswers(GradedUsage x) {
+        StringBuilder text = new StringBuilder("status " + x.status() + " at " + x.errorNode());
+        for (int node = -1; node <= GradedUsage.MAX_NODES; node++) {
+            text.append(", binder ").append(node).append(' ').append(x.binderGrade(node));
+            for (int which = -1; which <= 2; which++) {
+                text.append(' ').append(x.binderUsage(node, which));
+            }
+        }
+        for (int depth = -1; depth <= 4; depth++) {
+            for (int bits = 0; bits < 16; bits++) {
+                text.append(", type ").append(depth).append(' ').append(bits).append(' ').append(x.typeAt(depth, bits));
+            }
+        }
+        text.append(", outcome ").append(x.outcome()).append(", value ").append(x.valueInt());
+        text.append(", records ").append(x.records()).append(", derefs ").append(x.derefs());
+        for (int k = -1; k <= 32; k++) {
+            text.append(", record ").append(k).append(' ').append(x.recordNode(k));
+            text.append(' ').append(x.recordGrade(k)).append(' ').append(x.recordCount(k));
+        }
+        return text.toString();
+    }
+
+    /** Nothing that can be read has changed since allAnswers answered before. */
+    static void unchanged(String when, GradedUsage x, String before) {
+        String[] now = allAnswers(x).split(", ");
+        String[] then = before.split(", ");
+        for (int k = 0; k < then.length; k++) {
+            if (!now[k].equals(then[k])) {
+                is(when + ": what was '" + then[k] + "' and is '" + now[k] + "': changed", 1, 0);
+            }
+        }
+    }
+
     static void record(String when, GradedUsage x, int k, int node, int grade, int count) {
         is(when + ": recordNode(" + k + ")", x.recordNode(k), node);
         is(when + ": recordGrade(" + k + ")", x.recordGrade(k), grade);

@@ -11,6 +11,7 @@ public final class Promise1Test {
         frameLimitIsClamped();
         limitsInRangeAreKept();
         limitsNeverChange();
+        noMethodAltersTheLimits();
         objectsAreApart();
         Due.finish();
     }
@@ -75,14 +76,18 @@ public final class Promise1Test {
         }
         for (int limit : HIGH_64) {
             ends("frameLimit " + limit, Due.load(64, 32, limit, Samples.FRAMES_42), GradedUsage.OUT_INT, 8, 14);
+            ends("frameLimit " + limit, Due.load(64, 32, limit, Samples.FRAMES_48), GradedUsage.OUT_INT, 27, 46);
         }
     }
 
     private static void limitsInRangeAreKept() {
-        for (int limit = 1; limit <= 15; limit++) {
-            boolean enough = limit >= 15;
+        for (int limit = 1; limit <= 64; limit++) {
             ends("frameLimit " + limit, Due.load(64, 32, limit, Samples.leftSum(15)),
-                enough ? GradedUsage.OUT_INT : GradedUsage.OUT_FRAME_LIMIT, 0, 0);
+                limit >= 15 ? GradedUsage.OUT_INT : GradedUsage.OUT_FRAME_LIMIT, 0, 0);
+            GradedUsage x = Due.load(64, 32, limit, Samples.FRAMES_48);
+            x.check();
+            Due.is("run with frameLimit " + limit, x.run(),
+                limit >= 48 ? GradedUsage.OUT_INT : GradedUsage.OUT_FRAME_LIMIT);
         }
         for (int limit = 1; limit <= 64; limit++) {
             ends("derefLimit " + limit, Due.load(limit, 32, 64, Samples.DEREFS_64),
@@ -113,6 +118,46 @@ public final class Promise1Test {
             x.reset();
             Due.add(x, "LETBOX BOX:2 LIT:1 LETBOX BOX:2 LIT:2 VAR:0");
             ends("too many records, round " + round, x, GradedUsage.OUT_RECORD_LIMIT, 1, 0);
+        }
+    }
+
+    /** Calls every method, with ordinary arguments and with the outermost ones. */
+    private static void callAll(GradedUsage x) {
+        int[] numbers = {Integer.MIN_VALUE, -1, 0, 1, 31, 32, 33, 64, 65, Integer.MAX_VALUE};
+        for (int a : numbers) {
+            for (int b : numbers) {
+                x.addNode(a, b);
+                x.binderUsage(a, b);
+                x.typeAt(a, b);
+            }
+            x.check();
+            x.run();
+            x.binderGrade(a);
+            x.recordNode(a);
+            x.recordGrade(a);
+            x.recordCount(a);
+        }
+        Due.allAnswers(x);
+        x.reset();
+    }
+
+    private static void noMethodAltersTheLimits() {
+        GradedUsage x = new GradedUsage(2, 1, 2);
+        String[] programs = {"LETBOX BOX:2 LIT:1 ADD VAR:0 ADD VAR:0 VAR:0", "LETPAIR:3 PAIR LIT:1 LIT:2 LIT:3",
+            Samples.leftSum(3), "BOX:1 LIT:1"};
+        int[] outcomes = {GradedUsage.OUT_DEREF_LIMIT, GradedUsage.OUT_RECORD_LIMIT, GradedUsage.OUT_FRAME_LIMIT,
+            GradedUsage.OUT_BOX};
+        for (int first = 0; first < programs.length; first++) {
+            Due.add(x, programs[first]);
+            x.check();
+            x.run();
+            callAll(x);
+            for (int k = 0; k < programs.length; k++) {
+                Due.add(x, programs[k]);
+                x.check();
+                Due.is("run of " + programs[k] + " after every call", x.run(), outcomes[k]);
+                x.reset();
+            }
         }
     }
 

@@ -1,17 +1,8 @@
 /** Promise 2: reset in every state. */
 public final class Promise2Test {
     public static void main(String[] args) {
-        resetOf("a new object", new GradedUsage(64, 32, 64));
-        resetOf("an unchecked program", Due.load(Samples.DOUBLE));
-        resetOf("an accepted program", Due.accepted(Samples.DOUBLE));
-        GradedUsage ran = Due.accepted(Samples.DOUBLE);
-        ran.run();
-        resetOf("a program that ran", ran);
-        String[] refused = {"APP", "VAR:0", "ADD LIT:1 BOX:1 LIT:1", "LAM:0 T_INT VAR:0"};
-        for (String program : refused) {
-            GradedUsage x = Due.load(program);
-            x.check();
-            resetOf("the refused program " + program, x);
+        for (States.State state : States.all()) {
+            resetOf(state.name(), state.make());
         }
         GradedUsage halted = Due.load(1, 32, 64, Samples.DOUBLE);
         halted.check();

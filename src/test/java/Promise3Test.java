@@ -11,7 +11,9 @@ public final class Promise3Test {
         argumentsAreTested();
         theProgramFillsUp();
         aRefusalChangesNothing();
+        noStateLetsARefusalChangeIt();
         aNodeTakesTheCheckBack();
+        aNodeIsTakenInEveryState();
         argumentsAreStored();
         Due.finish();
     }
@@ -93,6 +95,29 @@ public final class Promise3Test {
         Due.is("a full program's outcome", full.outcome(), GradedUsage.OUT_BOX);
     }
 
+    private static void noStateLetsARefusalChangeIt() {
+        for (States.State state : States.all()) {
+            GradedUsage x = state.make();
+            String before = Due.allAnswers(x);
+            refuse(x);
+            Due.unchanged("a refused node with " + state.name(), x, before);
+            for (int kind = 1; kind <= 17 && state.full(); kind++) {
+                Due.is("addNode(" + kind + ", 0) with " + state.name(), x.addNode(kind, 0), -1);
+                Due.unchanged("a 33rd node of kind " + kind + " with " + state.name(), x, before);
+            }
+            sameProgram(state, x);
+        }
+    }
+
+    /** The nodes, and no others, are still there: the program checks and runs as a fresh one does. */
+    private static void sameProgram(States.State state, GradedUsage x) {
+        GradedUsage fresh = state.make();
+        Due.is("check after refusals with " + state.name(), x.check(), fresh.check());
+        Due.is("run after refusals with " + state.name(), x.run(), fresh.run());
+        Due.unchanged("the program after refusals with " + state.name(), x, Due.allAnswers(fresh));
+        Due.is("the next node with " + state.name(), x.addNode(GradedUsage.LIT, 0), state.full() ? -1 : state.nodes());
+    }
+
     private static void aNodeTakesTheCheckBack() {
         GradedUsage x = Due.accepted(Samples.DOUBLE);
         x.run();
@@ -108,6 +133,25 @@ public final class Promise3Test {
         Due.is("its fault", x.errorNode(), 7);
         Due.is("another node", x.addNode(GradedUsage.LIT, 5), 8);
         Due.is("errorNode after another node", x.errorNode(), -1);
+    }
+
+    private static void aNodeIsTakenInEveryState() {
+        for (States.State state : States.all()) {
+            if (state.full()) {
+                continue;
+            }
+            GradedUsage x = state.make();
+            // A type node after a whole program is no valid program: adding does not look.
+            Due.is("a node with " + state.name(), x.addNode(GradedUsage.T_INT, 77), state.nodes());
+            Due.is("status after a node with " + state.name(), x.status(), GradedUsage.ST_UNCHECKED);
+            Due.is("errorNode after a node with " + state.name(), x.errorNode(), -1);
+            Due.noRunResults("after a node with " + state.name(), x);
+            for (int node = -1; node <= 32; node++) {
+                Due.is("binderGrade after a node with " + state.name(), x.binderGrade(node), -1);
+                Due.is("binderUsage after a node with " + state.name(), x.binderUsage(node, 0), -1);
+            }
+            Due.is("typeAt after a node with " + state.name(), x.typeAt(0, 0), -1);
+        }
     }
 
     private static void argumentsAreStored() {

@@ -8,6 +8,7 @@ public final class Promise4Test {
 
     public static void main(String[] args) {
         syntax();
+        syntaxOfFullPrograms();
         childrenOfEveryKind();
         scope();
         typesOfSimpleTerms();
@@ -15,10 +16,13 @@ public final class Promise4Test {
         equalTypes();
         gradesOfBinders();
         usageIsAddedAndScaled();
+        tablesOfGrades();
         usageIsJoinedOverBranches();
         orderOfTests();
         runResultsAreCleared();
+        checkInEveryState();
         largeTypes();
+        largeTypesAreCompared();
         manyVariables();
         manyPrograms();
         listsAreMadeAnew();
@@ -44,6 +48,27 @@ public final class Promise4Test {
         // Syntax goes before scope and type, wherever the fault is.
         Due.checks("ADD VAR:0 BOX:1", SYNTAX, 3);
         Due.checks("ADD VAR:7 T_INT", SYNTAX, 2);
+    }
+
+    private static void syntaxOfFullPrograms() {
+        // The nodes end while the list is not empty; CASE makes the longest list, of 65 sorts.
+        String[] opening = {"ADD", "APP", "PAIR", "LETPAIR:3", "CASE:3", "BOX:1", "LETBOX"};
+        for (String kind : opening) {
+            Due.checks((kind + " ").repeat(32), SYNTAX, 32);
+            Due.checks((kind + " ").repeat(31) + "T_INT", SYNTAX, 31);
+        }
+        Due.checks("BOX:1 ".repeat(31) + "LIT:1", OK, -1);
+        Due.checks("CASE:3 ".repeat(31) + "LIT:1", SYNTAX, 32);
+        Due.checks("LAM:3 T_INT ".repeat(16), SYNTAX, 32);
+        Due.checks("INL T_INT ".repeat(16), SYNTAX, 32);
+        Due.checks("INR T_INT ".repeat(15) + "LIT:1 LIT:1", SYNTAX, 31);
+        Due.checks("LAM:3 " + "T_PAIR ".repeat(31), SYNTAX, 32);
+        Due.checks("LAM:3 " + "T_BOX:1 ".repeat(30) + "T_INT", SYNTAX, 32);
+        // The list is empty while nodes remain: the first of them, not the last.
+        Due.checks("LIT:1 ".repeat(32), SYNTAX, 1);
+        Due.checks("LIT:1 " + "T_INT ".repeat(31), SYNTAX, 1);
+        Due.checks(Samples.leftSum(14) + "LIT:1 LIT:1 LIT:1", SYNTAX, 29);
+        Due.checks(Samples.leftSum(15) + "T_INT", SYNTAX, 31);
     }
 
     private static void childrenOfEveryKind() {
@@ -208,6 +233,36 @@ public final class Promise4Test {
         uses("T_INT", "LAM:3 T_INT VAR:1", 1);
     }
 
+    /** A term of type Int that uses variable i with the grade. */
+    private static String useWith(int grade, int i) {
+        return "LETBOX BOX:" + grade + " VAR:" + i + " LIT:1";
+    }
+
+    private static void tablesOfGrades() {
+        int[][] sum = {{0, 1, 2}, {1, 2, 2}, {2, 2, 2}};
+        int[][] product = {{0, 0, 0}, {0, 1, 2}, {0, 2, 2}};
+        for (int a = 0; a <= 2; a++) {
+            for (int b = 0; b <= 2; b++) {
+                String useA = useWith(a, 0) + " ";
+                String useB = useWith(b, 0);
+                uses("T_INT", "ADD " + useA + useB, sum[a][b]);
+                uses("T_INT", "PAIR " + useA + useB, sum[a][b]);
+                uses("T_INT", "LETBOX BOX:1 " + useA + useWith(b, 1), sum[a][b]);
+                uses("T_INT", "LETPAIR:1 PAIR " + useA + "LIT:1 " + useWith(b, 2), sum[a][b]);
+                uses("T_INT", "APP LAM:1 T_INT " + useWith(a, 1) + " " + useB, sum[a][b]);
+                uses("T_INT", "CASE:1 INL T_INT " + useA + useWith(b, 1) + " LIT:1", sum[a][b]);
+                uses("T_INT", "CASE:1 INR T_INT " + useA + "LIT:1 " + useWith(b, 1), sum[a][b]);
+                uses("T_INT", "BOX:" + a + " " + useB, product[a][b]);
+                uses("T_INT", "APP LAM:" + a + " T_INT LIT:1 " + useB, product[a][b]);
+                // A pair or sum is taken apart once at least, hence h, the join with ONE.
+                int h = Math.max(a, 1);
+                uses("T_INT", "LETPAIR:" + a + " PAIR " + useB + " LIT:1 LIT:1", product[h][b]);
+                uses("T_INT", "CASE:" + a + " INL T_INT " + useB + " LIT:1 LIT:1", product[h][b]);
+                uses("T_INT", "CASE:3 INL T_INT LIT:1 " + useWith(a, 1) + " " + useWith(b, 1), Math.max(a, b));
+            }
+        }
+    }
+
     private static void usageIsJoinedOverBranches() {
         String s = "CASE:3 INL T_INT LIT:1 ";
         uses("T_INT", s + "VAR:1 VAR:1", 1);
@@ -245,6 +300,18 @@ public final class Promise4Test {
         Due.checks("CASE:3 INL T_INT LIT:1 LIT:1 " + badType, TYPE, 5);
         Due.checks("LETBOX LIT:1 " + badGrade, TYPE, 0);
         Due.checks("LETBOX BOX:0 LIT:1 ADD VAR:0 BOX:1 LIT:1", TYPE, 3);
+        Due.checks("CASE:3 LIT:1 LIT:1 " + badType, TYPE, 0);
+        Due.checks("CASE:3 LIT:1 LIT:1 " + badGrade, TYPE, 0);
+        Due.checks("LETPAIR:3 LIT:1 " + badGrade, TYPE, 0);
+        Due.checks("LETBOX LIT:1 " + badType, TYPE, 0);
+        Due.checks("LETBOX " + badType + " " + badGrade, TYPE, 1);
+        Due.checks("LETBOX " + badGrade + " " + badType, GRADE, 2);
+        Due.checks("CASE:3 " + badGrade + " " + badType + " " + badType, GRADE, 2);
+        // The tests not marked (first) wait for the later children.
+        Due.checks("LETPAIR:0 PAIR LIT:1 LIT:1 ADD VAR:0 BOX:1 LIT:1", TYPE, 4);
+        Due.checks("CASE:0 INL T_INT LIT:1 VAR:0 " + badType, TYPE, 5);
+        Due.checks("CASE:3 INL T_INT LIT:1 BOX:1 LIT:1 " + badType, TYPE, 6);
+        Due.checks("CASE:3 INL T_INT LIT:1 BOX:1 LIT:1 " + badGrade, GRADE, 7);
         // Within CASE the branches' types go before the grades.
         Due.checks("CASE:0 INL T_INT LIT:1 VAR:0 BOX:1 LIT:1", TYPE, 0);
         Due.checks("CASE:0 INL T_INT LIT:1 VAR:0 LIT:1", GRADE, 0);
@@ -257,6 +324,26 @@ public final class Promise4Test {
         Due.noRunResults("after check", x);
         Due.is("run after the second check", x.run(), GradedUsage.OUT_INT);
         Due.is("its value", x.valueInt(), 40);
+    }
+
+    private static void checkInEveryState() {
+        for (States.State state : States.all()) {
+            GradedUsage x = state.make();
+            GradedUsage twice = state.make();
+            int status = x.check();
+            boolean checked = state.status() != GradedUsage.ST_UNCHECKED;
+            Due.is("check with " + state.name(), status, checked ? state.status() : state.nodes() > 0 ? OK : SYNTAX);
+            Due.is("errorNode with " + state.name(), x.errorNode(), status == OK ? -1 : Math.max(state.errorNode(), 0));
+            Due.noRunResults("after check with " + state.name(), x);
+            twice.check();
+            twice.check();
+            Due.unchanged("check again with " + state.name(), twice, Due.allAnswers(x));
+            // Neither the program nor the limits have changed.
+            Due.is("run after check with " + state.name(), x.run(), twice.run());
+            if (state.outcome() != GradedUsage.OUT_NONE) {
+                Due.unchanged("run after check with " + state.name(), x, Due.allAnswers(state.make()));
+            }
+        }
     }
 
     private static void largeTypes() {
@@ -288,6 +375,26 @@ public final class Promise4Test {
         Due.is("typeAt(14, 0x3ffe) of nested pairs", pairs.typeAt(14, 0x3ffe), GradedUsage.T_PAIR * 4);
         Due.is("typeAt(15, 0x7ffe) of nested pairs", pairs.typeAt(15, 0x7ffe), GradedUsage.T_INT * 4);
         Due.is("typeAt(16, 0x7ffe) of nested pairs", pairs.typeAt(16, 0x7ffe), -1);
+    }
+
+    private static void largeTypesAreCompared() {
+        // The branches' type is written out with 63 nodes, and the two branches make it in two ways.
+        String branches = "LETBOX BOX:2 PAIR LIT:1 LIT:1 " + "LETBOX BOX:2 PAIR VAR:0 VAR:0 ".repeat(3)
+            + "CASE:3 INL T_INT LIT:1 PAIR VAR:1 VAR:1 ";
+        Due.checks(branches + "PAIR VAR:1 VAR:1", OK, -1);
+        Due.checks(branches + "PAIR VAR:1 PAIR VAR:2 VAR:2", OK, -1);
+        Due.checks(branches + "PAIR PAIR VAR:2 VAR:2 VAR:1", OK, -1);
+        Due.checks(branches + "PAIR VAR:1 PAIR VAR:2 VAR:3", TYPE, 20);
+        Due.checks(branches + "PAIR VAR:1 PAIR VAR:3 VAR:2", TYPE, 20);
+        Due.checks(branches + "PAIR PAIR VAR:2 VAR:4 VAR:1", TYPE, 20);
+        Due.checks(branches + "PAIR VAR:1 VAR:2", TYPE, 20);
+        GradedUsage x = Due.accepted(branches + "PAIR VAR:1 PAIR VAR:2 VAR:2");
+        for (int bits = 0; bits < 32; bits++) {
+            Due.is("typeAt(4, " + bits + ") of the branches", x.typeAt(4, bits), GradedUsage.T_PAIR * 4);
+            Due.is("typeAt(5, " + bits + ") of the branches", x.typeAt(5, bits), GradedUsage.T_INT * 4);
+            Due.is("typeAt(6, " + bits + ") of the branches", x.typeAt(6, bits), -1);
+        }
+        Due.is("run of the branches", x.run(), GradedUsage.OUT_PAIR);
     }
 
     private static void manyVariables() {

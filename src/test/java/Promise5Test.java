@@ -2,6 +2,8 @@
 public final class Promise5Test {
     public static void main(String[] args) {
         followTheCalls();
+        syntaxFaultsBeyondTheLastNode();
+        refusedNodesDoNotSetThem();
         readingChangesNothing();
         Due.finish();
     }
@@ -54,11 +56,38 @@ public final class Promise5Test {
         stands("after the last reset", x, GradedUsage.ST_UNCHECKED, -1);
     }
 
+    private static void syntaxFaultsBeyondTheLastNode() {
+        GradedUsage x = new GradedUsage(64, 32, 64);
+        for (int nodes = 0; nodes <= 32; nodes++) {
+            x.check();
+            stands("with " + nodes + " nodes that lack one", x, GradedUsage.ST_SYNTAX, nodes);
+            x.addNode(GradedUsage.BOX, 1);
+        }
+    }
+
+    private static void refusedNodesDoNotSetThem() {
+        for (States.State state : States.all()) {
+            GradedUsage x = state.make();
+            x.addNode(0, 0);
+            x.addNode(GradedUsage.BOX, GradedUsage.INFER);
+            if (state.full()) {
+                x.addNode(GradedUsage.LIT, 0);
+            }
+            stands("after refused nodes with " + state.name(), x, state.status(), state.errorNode());
+        }
+    }
+
     private static void readingChangesNothing() {
         GradedUsage x = Due.accepted(Samples.DOUBLE);
         x.run();
         stands("after a run", x, GradedUsage.ST_OK, -1);
         Due.runResults("after reading the status", x, GradedUsage.OUT_INT, 40, 1, 2);
         Due.is("binderGrade after reading the status", x.binderGrade(1), GradedUsage.MANY);
+        for (States.State state : States.all()) {
+            GradedUsage y = state.make();
+            String before = Due.allAnswers(y);
+            stands("with " + state.name(), y, state.status(), state.errorNode());
+            Due.unchanged("status and errorNode with " + state.name(), y, before);
+        }
     }
 }

@@ -8,6 +8,8 @@ public final class Promise6Test {
         onlyBindersAnswer();
         onlyAcceptedProgramsAnswer();
         nodesBeyondTheProgram();
+        theLastNodes();
+        onlyTheStatusDecides();
         Due.finish();
     }
 
@@ -116,6 +118,35 @@ public final class Promise6Test {
             Due.is("binderGrade(" + node + ")", x.binderGrade(node), -1);
             Due.is("binderUsage(" + node + ", 0)", x.binderUsage(node, 0), -1);
             Due.is("binderUsage(" + node + ", 1)", x.binderUsage(node, 1), -1);
+        }
+    }
+
+    private static void theLastNodes() {
+        // A binder needs two nodes more, so node 29 is the last that can be one.
+        String[] binders = {"LAM:3 T_INT VAR:0", "LETBOX BOX:2 LIT:1 VAR:0", "LETPAIR:3 PAIR LIT:1 LIT:1 VAR:0",
+            "CASE:3 INR T_INT LIT:1 VAR:0 LIT:1"};
+        int[] grades = {GradedUsage.ONE, GradedUsage.MANY, GradedUsage.ONE, GradedUsage.ONE};
+        for (int k = 0; k < binders.length; k++) {
+            int binder = 32 - binders[k].split(" ").length;
+            GradedUsage x = Due.accepted("BOX:1 ".repeat(binder) + binders[k]);
+            for (int node = 0; node <= 33; node++) {
+                Due.is("binderGrade(" + node + ") of 32 nodes", x.binderGrade(node), node == binder ? grades[k] : -1);
+                Due.is("binderUsage(" + node + ", 0) is there", x.binderUsage(node, 0) >= 0 ? 1 : 0,
+                    node == binder ? 1 : 0);
+            }
+        }
+    }
+
+    private static void onlyTheStatusDecides() {
+        for (States.State state : States.all()) {
+            GradedUsage x = state.make();
+            String before = Due.allAnswers(x);
+            int found = 0;
+            for (int node = 0; node < 32; node++) {
+                found += x.binderGrade(node) >= 0 && x.binderUsage(node, 0) >= 0 ? 1 : 0;
+            }
+            Due.is("binders are told with " + state.name(), found > 0 ? 1 : 0, state.accepted() ? 1 : 0);
+            Due.unchanged("binderGrade and binderUsage with " + state.name(), x, before);
         }
     }
 }

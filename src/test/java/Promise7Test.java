@@ -8,6 +8,8 @@ public final class Promise7Test {
         depthIsTested();
         onlyAcceptedProgramsAnswer();
         otherBitsDoNotMatter();
+        theLastStep();
+        onlyTheStatusDecides();
         Due.finish();
     }
 
@@ -115,5 +117,36 @@ public final class Promise7Test {
         at(pair, 2, 0xfffffffd, INT);
         at(pair, 2, Integer.MIN_VALUE, -1);
         at(pair, 1, Integer.MIN_VALUE, INT);
+    }
+
+    private static void theLastStep() {
+        // The 29th step goes into the pair, the 30th beyond it.
+        GradedUsage x = Due.accepted("BOX:1 ".repeat(28) + "PAIR LIT:1 BOX:2 LIT:1");
+        int right = 1 << 28;
+        Due.is("typeAt(28, right)", x.typeAt(28, right), 8);
+        Due.is("typeAt(29, 0)", x.typeAt(29, 0), INT);
+        Due.is("typeAt(29, right)", x.typeAt(29, right), 22);
+        Due.is("typeAt(29, -right)", x.typeAt(29, -right), 22);
+        Due.is("typeAt(30, right)", x.typeAt(30, right), INT);
+        Due.is("typeAt(30, right) with the sign", x.typeAt(30, right | Integer.MIN_VALUE), INT);
+        Due.is("typeAt(30, right and 30th)", x.typeAt(30, 3 << 28), -1);
+        Due.is("typeAt(30, 0)", x.typeAt(30, 0), -1);
+        Due.is("typeAt(31, right)", x.typeAt(31, right), -1);
+        GradedUsage last = Due.accepted("BOX:1 ".repeat(29) + "PAIR LIT:1 LIT:1");
+        Due.is("typeAt(29, 0) of the pair", last.typeAt(29, 0), 8);
+        Due.is("typeAt(30, 0) of the pair", last.typeAt(30, 0), INT);
+        Due.is("typeAt(30, 1 << 29) of the pair", last.typeAt(30, 1 << 29), INT);
+        Due.is("typeAt(30, -1 << 29) of the pair", last.typeAt(30, -1 << 29), INT);
+    }
+
+    private static void onlyTheStatusDecides() {
+        for (States.State state : States.all()) {
+            GradedUsage x = state.make();
+            String before = Due.allAnswers(x);
+            Due.is("typeAt(0, 5) answers with " + state.name(), x.typeAt(0, 5) >= 4 ? 1 : 0, state.accepted() ? 1 : 0);
+            x.typeAt(30, -1);
+            x.typeAt(31, -1);
+            Due.unchanged("typeAt with " + state.name(), x, before);
+        }
     }
 }

@@ -2,6 +2,7 @@
 public final class Promise8Test {
     public static void main(String[] args) {
         refusedRuns();
+        runInEveryState();
         values();
         sums();
         functions();
@@ -12,6 +13,8 @@ public final class Promise8Test {
         derefLimit();
         recordLimit();
         frameLimit();
+        onlyANumberIsAValue();
+        haltsKeepWhatWasReached();
         runsStartAfresh();
         Due.finish();
     }
@@ -30,6 +33,23 @@ public final class Promise8Test {
             Due.is("status of " + program, y.status(), status);
             Due.is("errorNode of " + program, y.errorNode(), errorNode);
             Due.noRunResults("after the refused run of " + program, y);
+        }
+    }
+
+    private static void runInEveryState() {
+        for (States.State state : States.all()) {
+            GradedUsage x = state.make();
+            String before = Due.allAnswers(x);
+            int outcome = x.run();
+            if (!state.accepted()) {
+                Due.is("run with " + state.name(), outcome, GradedUsage.OUT_NONE);
+                Due.unchanged("a refused run with " + state.name(), x, before);
+                Due.is("the next node with " + state.name(), x.addNode(GradedUsage.LIT, 0),
+                    state.full() ? -1 : state.nodes());
+            } else if (state.outcome() != GradedUsage.OUT_NONE) {
+                Due.is("run again with " + state.name(), outcome, state.outcome());
+                Due.unchanged("a run again with " + state.name(), x, before);
+            }
         }
     }
 
@@ -57,7 +77,6 @@ public final class Promise8Test {
         // The head is evaluated, what is inside is not.
         ran("PAIR ADD LIT:1 LIT:2 APP LAM:3 T_INT VAR:0 LIT:1", GradedUsage.OUT_PAIR, 0, 0, 0);
         ran("LETBOX BOX:1 INR T_INT LIT:1 VAR:0", GradedUsage.OUT_INR, 0, 1, 1);
-        // A number that went into a sum leaves no value behind when the result is no number.
         ran("APP LAM:3 T_INT LAM:3 T_INT VAR:1 ADD LIT:1 LIT:2", GradedUsage.OUT_FUN, 0, 1, 0);
         ran("CASE:3 CASE:3 INL T_INT LIT:4 INL T_INT VAR:0 INR T_INT VAR:0 BOX:1 VAR:0 BOX:1 VAR:0",
             GradedUsage.OUT_BOX, 0, 2, 0);
@@ -168,6 +187,8 @@ public final class Promise8Test {
         }
         ranWithin(64, 32, 42, Samples.FRAMES_42, GradedUsage.OUT_INT, 42, 8, 14);
         ranWithin(64, 32, 41, Samples.FRAMES_42, GradedUsage.OUT_FRAME_LIMIT, 0, 8, 13);
+        ranWithin(64, 32, 48, Samples.FRAMES_48, GradedUsage.OUT_INT, 48, 27, 46);
+        ranWithin(64, 32, 47, Samples.FRAMES_48, GradedUsage.OUT_FRAME_LIMIT, 0, 27, 43);
         // Right operands wait behind a number, which takes the place of the left frame.
         ranWithin(64, 32, 1, "ADD LIT:1 LIT:2", GradedUsage.OUT_INT, 3, 0, 0);
         ranWithin(64, 32, 1, "ADD LIT:1 ADD LIT:2 LIT:3", GradedUsage.OUT_FRAME_LIMIT, 0, 0, 0);
@@ -186,6 +207,35 @@ public final class Promise8Test {
         GradedUsage x = ranWithin(64, 32, 1, "LETBOX BOX:2 LIT:1 ADD VAR:0 ADD VAR:0 VAR:0",
             GradedUsage.OUT_FRAME_LIMIT, 0, 1, 1);
         Due.record("a frame too many", x, 0, 0, GradedUsage.MANY, 1);
+    }
+
+    private static void onlyANumberIsAValue() {
+        // Each run has added 3 and 4 by the time it meets its limit.
+        String sum = "ADD ADD LIT:3 LIT:4 ";
+        ranWithin(1, 32, 64, "LETBOX BOX:2 LIT:1 " + sum + "ADD VAR:0 VAR:0", GradedUsage.OUT_DEREF_LIMIT, 0, 1, 1);
+        ranWithin(64, 1, 64, sum + "LETPAIR:3 PAIR LIT:1 LIT:2 VAR:0", GradedUsage.OUT_RECORD_LIMIT, 0, 1, 0);
+        ranWithin(64, 32, 2, sum + "ADD ADD LIT:1 LIT:2 LIT:3", GradedUsage.OUT_FRAME_LIMIT, 0, 0, 0);
+        ranWithin(64, 32, 3, sum + "ADD ADD LIT:1 LIT:2 LIT:3", GradedUsage.OUT_INT, 13, 0, 0);
+        ran("LIT:0", GradedUsage.OUT_INT, 0, 0, 0);
+    }
+
+    private static void haltsKeepWhatWasReached() {
+        // Both boxes are read before the limit, the second one more often.
+        String start = "LETBOX BOX:2 LIT:1 LETBOX BOX:2 LIT:2 ADD VAR:1 ADD VAR:0 ADD VAR:0 ";
+        GradedUsage[] halted = {
+            ranWithin(3, 32, 64, start + "VAR:1", GradedUsage.OUT_DEREF_LIMIT, 0, 2, 3),
+            ranWithin(64, 2, 64, start + "LETBOX BOX:2 LIT:3 VAR:0", GradedUsage.OUT_RECORD_LIMIT, 0, 2, 3),
+            ranWithin(64, 32, 3, start + "ADD LIT:1 LIT:2", GradedUsage.OUT_FRAME_LIMIT, 0, 2, 3)};
+        for (GradedUsage x : halted) {
+            Due.record("outcome " + x.outcome(), x, 0, 0, GradedUsage.MANY, 1);
+            Due.record("outcome " + x.outcome(), x, 1, 3, GradedUsage.MANY, 2);
+            Due.record("outcome " + x.outcome(), x, 2, -1, -1, -1);
+        }
+        // A variable read at the limit is not counted, though nothing else is left to do.
+        GradedUsage x = ranWithin(1, 32, 64, "LETBOX BOX:2 LIT:1 LETBOX BOX:2 VAR:0 VAR:0",
+            GradedUsage.OUT_DEREF_LIMIT, 0, 2, 1);
+        Due.record("the box not reached", x, 0, 0, GradedUsage.MANY, 0);
+        Due.record("the box reached", x, 1, 3, GradedUsage.MANY, 1);
     }
 
     private static void runsStartAfresh() {

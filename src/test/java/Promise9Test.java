@@ -4,6 +4,7 @@ public final class Promise9Test {
 
     public static void main(String[] args) {
         readingChangesNothing();
+        readingInEveryState();
         recordsThatAreNotThere();
         clearedResults();
         sumsOfCounts();
@@ -19,6 +20,28 @@ public final class Promise9Test {
             Due.runResults("round " + round, x, GradedUsage.OUT_INT, 40, 1, 2);
             Due.record("round " + round, x, 0, 1, GradedUsage.MANY, 2);
             Due.is("status in round " + round, x.status(), GradedUsage.ST_OK);
+        }
+    }
+
+    private static void readingInEveryState() {
+        for (States.State state : States.all()) {
+            GradedUsage x = state.make();
+            String before = Due.allAnswers(x);
+            Due.unchanged("reading with " + state.name(), x, before);
+            for (int k = -1; k <= 32; k++) {
+                boolean there = k >= 0 && k < x.records();
+                Due.is("recordNode(" + k + ") with " + state.name(), x.recordNode(k) >= 0 ? 1 : 0, there ? 1 : 0);
+                Due.is("recordGrade(" + k + ") with " + state.name(), x.recordGrade(k) >= 0 ? 1 : 0, there ? 1 : 0);
+                Due.is("recordCount(" + k + ") with " + state.name(), x.recordCount(k) >= 0 ? 1 : 0, there ? 1 : 0);
+            }
+            if (state.outcome() != GradedUsage.OUT_INT) {
+                Due.is("valueInt with " + state.name(), x.valueInt(), 0);
+            }
+            if (state.outcome() == GradedUsage.OUT_NONE) {
+                Due.noRunResults(state.name(), x);
+            }
+            x.check();
+            Due.noRunResults("after check with " + state.name(), x);
         }
     }
 

@@ -29,6 +29,14 @@ final class Samples {
         + " LIT:1 LIT:1 LIT:1 LIT:1 LIT:1 LIT:1"
         + " APP VAR:0 APP VAR:0 APP VAR:0 APP VAR:0 APP VAR:0 APP VAR:0 APP VAR:0 LIT:0";
 
+    /**
+     * Four times four calls of a function with three sums: 48 frames, value 48, and 32 nodes. No program that
+     * needs more frames was found.
+     */
+    static final String FRAMES_48 = "LETBOX BOX:2 LAM:2 T_FUN:1 T_INT T_INT LAM:1 T_INT"
+        + " APP VAR:1 APP VAR:1 APP VAR:1 APP VAR:1 VAR:0"
+        + " APP APP VAR:0 APP VAR:0 LAM:1 T_INT ADD ADD ADD VAR:0 LIT:1 LIT:1 LIT:1 LIT:0";
+
     private Samples() {
     }
 
