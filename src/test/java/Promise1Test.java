@@ -1,14 +1,17 @@
+import java.lang.reflect.Field;
+
 /** Promise 1: construction, and the limits that it clamps. */
 public final class Promise1Test {
     private static final int[] LOW = {1, 0, -1, -64, Integer.MIN_VALUE};
     private static final int[] HIGH_64 = {64, 65, 66, 1000, Integer.MAX_VALUE};
     private static final int[] HIGH_32 = {32, 33, 34, 64, Integer.MAX_VALUE};
 
-    public static void main(String[] args) {
+    public static void main(String[] args) throws ReflectiveOperationException {
         startsEmpty();
         derefLimitIsClamped();
         recordLimitIsClamped();
         frameLimitIsClamped();
+        frameLimitItself();
         limitsInRangeAreKept();
         limitsNeverChange();
         noMethodAltersTheLimits();
@@ -77,6 +80,21 @@ public final class Promise1Test {
         for (int limit : HIGH_64) {
             ends("frameLimit " + limit, Due.load(64, 32, limit, Samples.FRAMES_42), GradedUsage.OUT_INT, 8, 14);
             ends("frameLimit " + limit, Due.load(64, 32, limit, Samples.FRAMES_48), GradedUsage.OUT_INT, 27, 46);
+        }
+    }
+
+    /** No program is known that needs more than 48 frames, so no run can tell 64 from 63: the field is read. */
+    private static void frameLimitItself() throws ReflectiveOperationException {
+        Field field = GradedUsage.class.getDeclaredField("frameLimit");
+        field.setAccessible(true);
+        for (int limit : LOW) {
+            Due.is("frameLimit " + limit + " kept as", field.getInt(new GradedUsage(64, 32, limit)), 1);
+        }
+        for (int limit : HIGH_64) {
+            Due.is("frameLimit " + limit + " kept as", field.getInt(new GradedUsage(1, 1, limit)), 64);
+        }
+        for (int limit = 1; limit <= 64; limit++) {
+            Due.is("frameLimit " + limit + " kept as", field.getInt(new GradedUsage(1, 1, limit)), limit);
         }
     }
 

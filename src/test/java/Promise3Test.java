@@ -1,8 +1,5 @@
 /** Promise 3: addNode, what it refuses, and what a refusal leaves alone. */
 public final class Promise3Test {
-    /** The greatest argument of each kind 1..17; ANY where none refuses. */
-    private static final int ANY = -1;
-    private static final int[] GREATEST = {ANY, ANY, ANY, ANY, 2, 2, 31, ANY, ANY, 3, ANY, ANY, 3, ANY, ANY, 3, 2, ANY};
     private static final int[] ARGS = {Integer.MIN_VALUE, -1000, -2, -1, 0, 1, 2, 3, 4, 5, 30, 31, 32, 33, 64, 1000,
         Integer.MAX_VALUE};
 
@@ -35,7 +32,7 @@ public final class Promise3Test {
         for (int kind = 1; kind <= 17; kind++) {
             for (int arg : ARGS) {
                 GradedUsage x = new GradedUsage(64, 32, 64);
-                boolean fits = GREATEST[kind] == ANY || (arg >= 0 && arg <= GREATEST[kind]);
+                boolean fits = Samples.fits(kind, arg);
                 Due.is("addNode(" + kind + ", " + arg + ")", x.addNode(kind, arg), fits ? 0 : -1);
                 Due.is("the node after " + kind + ", " + arg, x.addNode(GradedUsage.LIT, 0), fits ? 1 : 0);
             }
@@ -101,8 +98,9 @@ public final class Promise3Test {
             String before = Due.allAnswers(x);
             refuse(x);
             Due.unchanged("a refused node with " + state.name(), x, before);
+            // 1 fits every kind, and no full program here ends with a node of that argument.
             for (int kind = 1; kind <= 17 && state.full(); kind++) {
-                Due.is("addNode(" + kind + ", 0) with " + state.name(), x.addNode(kind, 0), -1);
+                Due.is("addNode(" + kind + ", 1) with " + state.name(), x.addNode(kind, 1), -1);
                 Due.unchanged("a 33rd node of kind " + kind + " with " + state.name(), x, before);
             }
             sameProgram(state, x);

@@ -37,7 +37,21 @@ final class Samples {
         + " APP VAR:1 APP VAR:1 APP VAR:1 APP VAR:1 VAR:0"
         + " APP APP VAR:0 APP VAR:0 LAM:1 T_INT ADD ADD ADD VAR:0 LIT:1 LIT:1 LIT:1 LIT:0";
 
+    /** The greatest argument of each kind 1..17; ANY where none refuses. */
+    private static final int ANY = -1;
+    private static final int[] GREATEST = {ANY, ANY, ANY, ANY, 2, 2, 31, ANY, ANY, 3, ANY, ANY, 3, ANY, ANY, 3, 2, ANY};
+
     private Samples() {
+    }
+
+    /** Whether the node table allows the argument for a kind in 1..17. */
+    static boolean fits(int kind, int arg) {
+        return GREATEST[kind] == ANY || (arg >= 0 && arg <= GREATEST[kind]);
+    }
+
+    /** The argument that a node keeps: 0 where the node table says it is ignored. */
+    static int kept(int kind, int arg) {
+        return GREATEST[kind] == ANY && kind != GradedUsage.LIT ? 0 : arg;
     }
 
     /** A sum of the numbers 0 .. frames that is nested to the left: needs just that many frames. */
