@@ -5,8 +5,8 @@ import java.util.List;
 public final class SequenceTest {
     private static final int OBJECTS = 3000;
     private static final int CALLS = 40;
-    private static final int[] ODD = {Integer.MIN_VALUE, -65, -33, -2, -1, 0, 1, 2, 3, 4, 15, 16, 17, 18, 30, 31, 32, 33,
-        63, 64, 65, Integer.MAX_VALUE};
+    private static final int[] ODD = {Integer.MIN_VALUE, -65, -33, -2, -1, 0, 1, 2, 3, 4, 15, 16, 17, 18, 30, 31, 32,
+        33, 63, 64, 65, Integer.MAX_VALUE};
 
     private final Maker maker;
     private final int[] limits;
