@@ -83,7 +83,7 @@ public final class Promise1Test {
         }
     }
 
-    /** No program is known that needs more than 48 frames, so no run can tell 64 from 63: the field is read. */
+    /** No program is known that needs more than 48 frames, so no known run tells 64 from 63: the field is read. */
     private static void frameLimitItself() throws ReflectiveOperationException {
         Field field = GradedUsage.class.getDeclaredField("frameLimit");
         field.setAccessible(true);
